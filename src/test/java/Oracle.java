@@ -69,6 +69,16 @@ final class Oracle {
     private int trace = 0;
     private int fault = 0;
 
+    static Oracle withCourt(String text) {
+        Oracle oracle = new Oracle();
+        oracle.call("sheet", 0, 0, text.length());
+        for (int i = 0; i < text.length(); i++) {
+            oracle.call("put", 0, i, text.charAt(i));
+        }
+        oracle.call("court", 0, 0, 0, text.length());
+        return oracle;
+    }
+
     long call(String name, int... a) {
         switch (name) {
             case "court": return faulty(() -> court(a[0], a[1], a[2], a[3]));
