@@ -150,7 +150,10 @@ public final class ReadingsTest {
         check.due("fewer", x.who(0, 1, 2, 0, 2), 0);
         check.due("none", x.kinds(0, 1, 2, 0, 0), 0);
         x.back(1);
-        x.reading(0, 1, 1);
+        check.due("it is taken back", x.wears(0, 1, 2, 0, 0), 1022);
+        for (int k = 0; k < 8; k++) {
+            x.reading(0, 1, 1);
+        }
         check.due("none are needed", x.wears(0, 1, 2, 0, 0), 1022);
     }
 

@@ -54,10 +54,14 @@ public final class SheetsTest {
         due(x, "lose(-1)", x.lose(-1), FaceGlass.UNKNOWN, 4);
         due(x, "put on nothing", x.put(2, 0, 0), NULL, 1);
         x.sheet(2, 1, 3);
-        x.put(2, 1, 8);
+        for (int i = 0; i < 3; i++) {
+            x.put(2, i, 8);
+        }
         x.lose(2);
         x.sheet(2, 1, 3);
-        due(x, "a new row has 0", x.cell(2, 1, 1), 0, 0);
+        for (int i = 0; i < 3; i++) {
+            due(x, "a new row has 0", x.cell(2, i, 1), 0, 0);
+        }
     }
 
     private static void puts() {

@@ -6,6 +6,7 @@ public final class VisitsTest {
     public static void main(String[] args) {
         noVisits();
         fewVisits();
+        fiveHeads();
         firstWrongs();
         homes();
         everyHome();
@@ -42,6 +43,16 @@ public final class VisitsTest {
             new int[] {2, NONE, 2, 2, 0, NONE, 1, 0, 1, 0, 1, 1, 0});
         all(x, new int[] {0, 2, 0}, new int[] {0, 1, 2, 3, 4, 10, 11, 12, 20, 22, 30, 31, 32},
             new int[] {2, NONE, 3, NONE, 0, 2, 1, 0, 1, 1, 1, 1, 1});
+    }
+
+    private static void fiveHeads() {
+        FaceGlass x = Check.withCourt("m;h10;l10;s15;h23;s14");
+        int[] whats = {0, 1, 2, 3, 4, 10, 11, 12, 13, 14, 20, 21, 22, 23, 24, 30, 31, 32, 33, 34};
+        int[] due = {14, NONE, 3, NONE, 0, 4, 1, 2, 3, 0, 1, 0, 0, 0, 1, 1, 1, 2, 2, 1};
+        all(x, new int[] {0, 4, 0}, whats, due);
+        check.due("fewer heads behind more", Check.court(x, 0, 0, "m;h95;h95"), 2);
+        check.due("two wear their own", visits(x, 0), 3);
+        check.due("none is worn", visits(x, 4), NONE);
     }
 
     private static void firstWrongs() {
