@@ -11,6 +11,7 @@ public final class Promise06VisitsTest {
         noneToTwentyVisits();
         everyQuestionAndNoOther();
         noVisitsAtAll();
+        noneToAllWearTheirOwn();
         anEmptyGlass();
         smooth();
         takenAsOftenAsItLasts();
@@ -75,6 +76,20 @@ public final class Promise06VisitsTest {
         visits("the last HEAD's", 0, 11, 1);
         visits("how often", 0, 21, 0);
         visits("none is FOOLED", 0, 31, 0);
+    }
+
+    private static void noneToAllWearTheirOwn() {
+        at("m;h90;h90;h90", 0, 1, 2, 0, 0, 2, 1, 0);
+        visits("all", 0, 0, 0b111);
+        visits("all but the first", 1, 0, 0b110);
+        visits("the last", 2, 0, 0b100);
+        visits("none, one SMOOTH", 3, 0, 0);
+        visits("none, none SMOOTH", 4, 0, 0);
+        visits("the last again", 6, 0, 0b100);
+        visits("the last two again", 7, 0, 0b110);
+        visits("all again", 8, 0, 0b111);
+        at("m;h90;h90", 1);
+        visits("all but the last", 1, 0, 0b01);
     }
 
     private static void anEmptyGlass() {

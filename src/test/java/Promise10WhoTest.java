@@ -12,6 +12,7 @@ public final class Promise10WhoTest {
         inPlaceOfOneVisitAlone();
         asOftenAsMasksLast();
         readingsBehindNoneAndAll();
+        eightReadings();
         moreVisitsThanAreTold();
         nobody();
         rowsThatAreThere();
@@ -95,6 +96,25 @@ public final class Promise10WhoTest {
         edges.leaving("the first not so behind all", x -> x.who(0, 1, 2, 0, 2), 0);
         edges.at(() -> read(Scene.courtWithRow("m;s90;s90", new int[20]), 20, 0, 0));
         edges.leaving("so behind 20", x -> x.who(19, 1, 2, 0, 20), 1);
+    }
+
+    /** Seven that are so, and an eighth. */
+    private static FaceGlass eight(int t, int p, int face) {
+        FaceGlass x = Scene.courtWithRow("m;h90;h90", 0, 0);
+        for (int k = 0; k < 7; k++) {
+            x.reading(1, 0, NONE);
+        }
+        x.reading(t, p, face);
+        return x;
+    }
+
+    private static void eightReadings() {
+        edges.at(() -> eight(0, 1, 1));
+        edges.leaving("all are so", x -> x.who(0, 1, 2, 0, 2), 1);
+        edges.at(() -> eight(0, 1, 0));
+        edges.leaving("the eighth is not so", x -> x.who(0, 1, 2, 0, 2), 0);
+        edges.at(() -> eight(3, 1, 1));
+        edges.leaving("the eighth is behind more VISITS than are told", x -> x.who(0, 1, 2, 0, 2), 0);
     }
 
     private static void moreVisitsThanAreTold() {

@@ -12,6 +12,7 @@ public final class Promise11KindsTest {
         byTheWearAsItIsNow();
         inPlaceOfOneHeadsAlone();
         readingsBehindNoneAndAll();
+        eightReadings();
         moreVisitsThanAreTold();
         rowsThatAreThere();
         cellsThatAreHeads();
@@ -87,6 +88,25 @@ public final class Promise11KindsTest {
         edges.leaving("so amid them", x -> x.kinds(1, 1, 2, 0, 2), 7);
         edges.at(() -> read(Scene.courtWithRow("m;h90;h90", 0, 0), 2, 0, NONE));
         edges.leaving("not so behind all", x -> x.kinds(1, 1, 2, 0, 2), 0);
+    }
+
+    /** Seven that are so, and an eighth. */
+    private static FaceGlass eight(int t, int p, int face) {
+        FaceGlass x = Scene.courtWithRow("m;h90;h90", 0, 0);
+        for (int k = 0; k < 7; k++) {
+            x.reading(1, 0, NONE);
+        }
+        x.reading(t, p, face);
+        return x;
+    }
+
+    private static void eightReadings() {
+        edges.at(() -> eight(0, 1, 1));
+        edges.leaving("all are so", x -> x.kinds(1, 1, 2, 0, 2), 7);
+        edges.at(() -> eight(0, 1, 0));
+        edges.leaving("the eighth is not so", x -> x.kinds(1, 1, 2, 0, 2), 0);
+        edges.at(() -> eight(3, 1, 1));
+        edges.leaving("the eighth is behind more VISITS than are told", x -> x.kinds(1, 1, 2, 0, 2), 0);
     }
 
     private static void moreVisitsThanAreTold() {

@@ -27,7 +27,7 @@ public final class Promise14SheetTest {
 
     private static void theFirstAndTheLastLane() {
         edges.at(Scene::hall);
-        edges.refused("LANE -1", x -> x.sheet(3, -1, 1), OUTSIDE);
+        edges.refused("LANE -1", x -> x.sheet(0, -1, 1), OUTSIDE);
         for (int k = 0; k < 3; k++) {
             int lane = k;
             edges.taken("LANE " + k, x -> x.sheet(3, lane, 1), 1);
@@ -35,7 +35,7 @@ public final class Promise14SheetTest {
             edges.seen("is of no other", x -> x.sheet(3, lane, 1) == 1 ? x.cell(3, 0, (lane + 1) % 3) : 99,
                 FaceGlass.LOST);
         }
-        edges.refused("LANE 3", x -> x.sheet(3, 3, 1), OUTSIDE);
+        edges.refused("LANE 3", x -> x.sheet(0, 3, 1), OUTSIDE);
     }
 
     private static long behind(FaceGlass x, int lane, int n, int i) {
@@ -46,17 +46,17 @@ public final class Promise14SheetTest {
         edges.at(Scene::hall);
         for (int k = 0; k < 3; k++) {
             int lane = k;
-            edges.refused("n -1", x -> x.sheet(1, lane, -1), SIZE);
-            edges.taken("n 0", x -> x.sheet(1, lane, 0), 1);
+            edges.refused("n -1", x -> x.sheet(0, lane, -1), SIZE);
+            edges.taken("n 0", x -> x.sheet(0, lane, 0), 1);
             edges.seen("no cell of none", x -> behind(x, lane, 0, 0), Edges.INDEX);
             edges.seen("a row of none is not nothing", x -> x.sheet(3, lane, 0) == 1 ? x.lose(3) : 99, 1);
-            edges.taken("n 1", x -> x.sheet(1, lane, 1), 1);
+            edges.taken("n 1", x -> x.sheet(0, lane, 1), 1);
             edges.seen("the cell of one", x -> behind(x, lane, 1, 0), 1);
             edges.seen("no second cell of one", x -> behind(x, lane, 1, 1), Edges.INDEX);
-            edges.taken("n 60", x -> x.sheet(1, lane, 60), 1);
+            edges.taken("n 60", x -> x.sheet(0, lane, 60), 1);
             edges.seen("the last cell of 60", x -> behind(x, lane, 60, 59), 1);
             edges.seen("none behind 60", x -> behind(x, lane, 60, 60), Edges.INDEX);
-            edges.refused("n 61", x -> x.sheet(1, lane, 61), OUTSIDE);
+            edges.refused("n 61", x -> x.sheet(0, lane, 61), OUTSIDE);
         }
     }
 
@@ -98,7 +98,7 @@ public final class Promise14SheetTest {
 
     private static void refusalsInOrder() {
         edges.at(Scene::hall);
-        edges.inOrder((x, a) -> x.sheet(a[0], a[1], a[2]), new int[] {1, 2, 60}, new int[][] {
+        edges.inOrder((x, a) -> x.sheet(a[0], a[1], a[2]), new int[] {0, 2, 60}, new int[][] {
             {UNKNOWN, 0, -1, 4, MIN, MAX}, {OUTSIDE, 1, -1, 3, MIN, MAX}, {OUTSIDE, 2, 61, MAX},
             {SIZE, 2, -1, -60, MIN}});
     }

@@ -158,42 +158,9 @@ public final class RunsTest {
         if (left-- <= 0) {
             return;
         }
-        StringBuilder call = new StringBuilder(name).append('(');
-        for (int i = 0; i < a.length; i++) {
-            call.append(i == 0 ? "" : ", ").append(a[i]);
-        }
-        told.append(call.append(") "));
+        told.append(Calls.told(name, a)).append(' ');
         long want = oracle.call(name, a);
-        long got = answered(name, a);
+        long got = Calls.on(glass, name, a);
         check.due(got == want ? name : told.toString(), got, want);
-    }
-
-    private long answered(String name, int[] a) {
-        switch (name) {
-            case "court": return glass.court(a[0], a[1], a[2], a[3]);
-            case "ofHead": return glass.ofHead(a[0], a[1]);
-            case "wear": return glass.wear(a[0], a[1]);
-            case "knows": return glass.knows(a[0], a[1]);
-            case "visits": return glass.visits(a[0], a[1], a[2], a[3], a[4]);
-            case "plan": return glass.plan(a[0], a[1], a[2]);
-            case "reading": return glass.reading(a[0], a[1], a[2]);
-            case "back": return glass.back(a[0]);
-            case "who": return glass.who(a[0], a[1], a[2], a[3], a[4]);
-            case "kinds": return glass.kinds(a[0], a[1], a[2], a[3], a[4]);
-            case "wears": return glass.wears(a[0], a[1], a[2], a[3], a[4]);
-            case "odds": return glass.odds(a[0], a[1], a[2], a[3]);
-            case "sheet": return glass.sheet(a[0], a[1], a[2]);
-            case "lose": return glass.lose(a[0]);
-            case "put": return glass.put(a[0], a[1], a[2]);
-            case "cell": return glass.cell(a[0], a[1], a[2]);
-            case "copy": return glass.copy(a[0], a[1], a[2], a[3], a[4]);
-            case "tell": return glass.tell(a[0]);
-            case "greet": return glass.greet(a[0]);
-            case "as": return glass.as(a[0], a[1]);
-            case "trace": return glass.trace();
-            case "fault": return glass.fault();
-            case "many": return glass.many(a[0]);
-            default: throw new IllegalArgumentException(name);
-        }
     }
 }
